@@ -440,7 +440,7 @@ public final class DivisorLockers {
     }
 
     private static boolean contains(long set, int number) {
-        return (set & bit(number)) != 0L;
+        return (set >>> number & 1L) != 0L;
     }
 
     private static int countAt(int[] counts, int number) {

@@ -107,6 +107,10 @@ public final class ClosingTest {
         DivisorLockers last = new DivisorLockers();
         last.pass(48);
         Due.same("48 open: bestPass()", last.bestPass(), 48);
+        DivisorLockers allButOne = new DivisorLockers();
+        allButOne.pass(2);
+        allButOne.turnDoor(2);
+        Due.same("4, 6 and so on open: bestPass()", allButOne.bestPass(), 2);
         DivisorLockers two = new DivisorLockers();
         two.turnDoor(40);
         two.turnDoor(33);

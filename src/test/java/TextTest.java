@@ -49,6 +49,9 @@ public final class TextTest {
 
     private static void fault(String text, int position, int reason, int cause) {
         fault("", new DivisorLockers(), text, position, reason, cause);
+        Due.same("\"" + text + "\": faultReason() alone", Made.withText(text).faultReason(), reason);
+        Due.same("\"" + text + "\": faultCause() alone", Made.withText(text).faultCause(), cause);
+        Due.throwing("\"" + text + "\": play() alone", STATE, () -> Made.withText(text).play());
     }
 
     private static void fault(String where, DivisorLockers x, String text, int position, int reason, int cause) {
