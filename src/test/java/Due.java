@@ -1,9 +1,14 @@
+import java.util.NoSuchElementException;
 import java.util.Objects;
 import java.util.function.Consumer;
 import java.util.function.Supplier;
 
 /** Compares answers with those that are due, and counts the wrong ones. */
 final class Due {
+    static final Class<IllegalArgumentException> ARGUMENT = IllegalArgumentException.class;
+    static final Class<IllegalStateException> STATE = IllegalStateException.class;
+    static final Class<NoSuchElementException> NO_ELEMENT = NoSuchElementException.class;
+
     private static int wrong = 0;
     private static int compared = 0;
 
@@ -39,11 +44,26 @@ final class Due {
         same("after " + call + " that throws: everything", Seen.of(touched), Seen.of(setUp.get()));
     }
 
+    /** The call throws, and changes nothing, whatever the object was used for. */
+    static void refusedAnywhere(String call, Class<? extends RuntimeException> want, Consumer<DivisorLockers> action) {
+        refused(call + " on a new object", want, Made::fresh, action);
+        refused(call + " on a used object", want, Made::used, action);
+        refused(call + " on a full object", want, Made::full, action);
+    }
+
     /** The call is a question: the object is afterwards as one on which it was not called. */
     static void asking(String call, Supplier<DivisorLockers> setUp, Consumer<DivisorLockers> action) {
         DivisorLockers touched = setUp.get();
         action.accept(touched);
         same("after " + call + ": everything", Seen.of(touched), Seen.of(setUp.get()));
+    }
+
+    static int wrong() {
+        return wrong;
+    }
+
+    static int compared() {
+        return compared;
     }
 
     static void end() {

@@ -23,6 +23,31 @@ final class Made {
         return text(x, "p1;t2,00;");
     }
 
+    /** With all doors open, a thing behind each, a snapshot, 4 states and a text of 60 characters without a fault. */
+    static DivisorLockers full() {
+        DivisorLockers x = new DivisorLockers();
+        x.pass(1);
+        for (int door = 1; door <= 48; door++) {
+            x.store(door, door >= 17 && door <= 40 ? 1 : 0);
+        }
+        x.keep();
+        return text(x, "l01;".repeat(15));
+    }
+
+    static DivisorLockers allOpen() {
+        DivisorLockers x = new DivisorLockers();
+        x.pass(1);
+        return x;
+    }
+
+    static DivisorLockers open(int... doors) {
+        DivisorLockers x = new DivisorLockers();
+        for (int door : doors) {
+            x.turnDoor(door);
+        }
+        return x;
+    }
+
     static DivisorLockers text(DivisorLockers x, String text) {
         for (int place = 0; place < text.length(); place++) {
             x.type(text.charAt(place));
