@@ -145,19 +145,39 @@ final class ChangeTermsSentences {
 
     @Sentence(of = "Changes and exceptions", says = "each change records everything before it")
     static void aStateIsEverything() {
-        DivisorLockers x = Made.used();
-        String before = Seen.row(x);
-        x.clearText();
-        Made.text(x, "r1,1;l1;l9;t2,0;t26,1;p3;");
-        Due.same("play()", x.play(), 6);
-        x.turnSkip(2);
-        x.turnSkip(4);
-        x.takeOut(26);
-        x.undo();
-        x.undo();
-        x.undo();
-        x.undo();
-        Due.same("all of it undone: everything", Seen.row(x), before);
+        fourUndone("passes, locks, skips, a coat", x -> {
+            x.pass(1);
+            x.turnLock(1);
+            x.turnSkip(1);
+            x.store(2, 0);
+        });
+        fourUndone("a hat out, a coat in its place, by hand, a row", x -> {
+            x.takeOut(40);
+            x.store(40, 0);
+            x.turnDoor(1);
+            x.passRow(1, 48);
+        });
+        fourUndone("not locked, not skipped, a hat, back to the snapshot", x -> {
+            x.turnLock(9);
+            x.turnSkip(2);
+            x.store(20, 1);
+            x.goBack();
+        });
+        fourUndone("orders", x -> {
+            x.play();
+            x.takeOut(25);
+            x.turnDoor(25);
+            x.turnLock(25);
+        });
+    }
+
+    private static void fourUndone(String changes, Consumer<DivisorLockers> action) {
+        DivisorLockers x = Made.text(Made.used(), "d3;d2;l3;l3;");
+        action.accept(x);
+        for (int left = 3; left >= 0; left--) {
+            x.undo();
+        }
+        Due.same(changes + ", undone: everything", Seen.row(x), Seen.row(Made.used()));
     }
 
     @Sentence(of = "Changes and exceptions", says = "but the text")

@@ -194,16 +194,19 @@ final class SharesSentences {
     @Sentence(of = "Promise 33", says = "of everything")
     static void keepOfEverything() {
         DivisorLockers x = Made.used();
-        String kept = Seen.row(x);
         x.keep();
+        x.takeOut(40);
+        x.store(40, 0);
+        x.store(20, 1);
         x.play();
+        x.turnDoor(47);
         x.passRow(1, 48);
         for (int door = 1; door <= 48; door++) {
             x.turnLock(door);
             x.turnSkip(door);
         }
         x.goBack();
-        Due.same("everything changed, goBack(): everything", Seen.row(x), kept);
+        Due.same("everything changed, goBack(): everything", Seen.row(x), Seen.row(Made.used()));
     }
 
     @Sentence(of = "Promise 33", says = "but the text,")

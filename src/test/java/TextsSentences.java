@@ -149,6 +149,12 @@ final class TextsSentences {
         Due.same("typed again: play()", x.play(), 1);
         Due.same("typed again: openSet()", x.openSet(), Made.set(48));
         Due.same("clearText(): states()", x.states(), 2);
+        for (String text : new String[] {"p", "p1", "r1,2", "t48,1"}) {
+            DivisorLockers y = Made.withText("t48,1;p123");
+            y.clearText();
+            Made.text(y, text);
+            Due.same("\"" + text + "\" in place of a longer one: fault", Seen.fault(y), "0/1/" + text.length());
+        }
     }
 
     @Sentence(of = "Promise 38", says = "Returns the length that it had.")

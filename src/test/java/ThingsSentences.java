@@ -215,6 +215,8 @@ final class ThingsSentences {
         Due.same("open, nothing there: shutAway()", Made.allOpen().shutAway(), 0);
         Due.same("open, things there: shutAway()", Made.full().shutAway(), 0);
         DivisorLockers x = Made.full();
+        x.turnLock(3);
+        Due.same("open and locked, a coat there: shutAway()", x.shutAway(), 0);
         x.takeOut(1);
         x.turnDoor(1);
         Due.same("one closed, nothing there: shutAway()", x.shutAway(), 0);
